@@ -377,6 +377,8 @@ public final class Promises {
             x.lay(1, i, 25);
         }
         tells(x, "hash of zzzzzz", x.hash(1), "zzzzzz".hashCode());
+        x.row(2, 1);
+        tells(x, "hash of a", x.hash(2), 97);
     }
 
     private static void p14told() {
@@ -523,6 +525,10 @@ public final class Promises {
             due("digest", x.digest(), digests[n]);
         }
         due("count(7)", x.count(7), 5);
+        x.weigh(0, 9);
+        due("cost() of weights 9, 2, 3", x.cost(), 2 * 9 + 2 + 3 + 14 + 5);
+        due("undo(0)", x.undo(0), 1);
+        due("cost() of weights 1, 2, 3", x.cost(), 2 * 1 + 2 + 3 + 6 + 3);
         x.lots(20, 99);
         x.lots(20, 4);
         due("undo(0)", x.undo(0), 40);
@@ -564,7 +570,9 @@ public final class Promises {
         due("on(1) again", x.on(1), 1);
         due("undo(0)", x.undo(0), 1);
         due("count(0)", x.count(0), 1);
+        due("cost()", x.cost(), 2);
         due("on(1) again", x.on(1), 1);
+        due("cost()", x.cost(), 3 + 2 + 2);
         due("count(0)", x.count(0), 2);
     }
 
