@@ -15,8 +15,11 @@ import java.util.regex.Pattern;
  * patterns.
  */
 public final class AgainstModel {
-    private static final int RUNS = 3000;
-    private static final int CALLS = 160;
+    private static final int RUNS = 9000;
+    /** An object answers as promised for so many calls; the last seven ask for findings(). */
+    private static final int CALLS = 512 - 7;
+    private static final int CALLS_TO_COMPARE = 5, CALLS_OF_A_TURN = 2 * CALLS_TO_COMPARE;
+    private static final int CALLS_OF_WORDS = 120 + 3 * CALLS_TO_COMPARE;
 
     private static int wrong = 0;
 
@@ -638,6 +641,7 @@ public final class AgainstModel {
     private final CaseCutter x = new CaseCutter();
     private final Model m = new Model();
     private final int run;
+    private int used = 0;
     private final StringBuilder calls = new StringBuilder();
 
     private AgainstModel(int run) {
@@ -659,11 +663,9 @@ public final class AgainstModel {
         due(call + " asked()", x.asked(), m.asked);
         due(call + " mask0()", x.mask0(), m.mask0);
         due(call + " finding()", x.finding(), m.finding);
-        for (int f = 0; f < 7; f++) {
-            due(call + " findings(" + f + ")", x.findings(f), m.findings(f));
-        }
         due(call + " digest()", x.digest(), m.digest());
         calls.append(call).append("; ");
+        used += CALLS_TO_COMPARE;
     }
 
     /** Mostly 0 .. n - 1, now and then beside them or far off. */
@@ -719,7 +721,10 @@ public final class AgainstModel {
         int t = lot.nextInt(4);
         both("text(" + t + ", " + s.length() + ")", x.text(t, s.length()), m.text(t, s.length()));
         for (int i = 0; i < s.length(); i++) {
-            due("put", x.put(t, i, s.charAt(i)), m.put(t, i, s.charAt(i)));
+            if (s.charAt(i) != ' ') {
+                due("put", x.put(t, i, s.charAt(i)), m.put(t, i, s.charAt(i)));
+                used++;
+            }
         }
         calls.append("'").append(s).append("'; ");
         both("fault(" + t + ")", x.fault(t), m.fault(t));
@@ -781,12 +786,15 @@ public final class AgainstModel {
     }
 
     private void go() {
-        for (int c = 0; c < CALLS && wrong == 0; c++) {
+        while (used + CALLS_OF_A_TURN <= CALLS && wrong == 0) {
             int way = lot.nextInt(20);
-            if (way == 0) typeWords();
+            if (way == 0 && used + CALLS_OF_WORDS <= CALLS) typeWords();
             else if (way < 4) callOnRows();
             else if (way < 11) callOnDeeds();
             else callOnPlan();
+        }
+        for (int f = 0; f < 7; f++) {
+            due("findings(" + f + ")", x.findings(f), m.findings(f));
         }
     }
 
