@@ -79,9 +79,12 @@ public final class BoundsOfCalls extends Bench {
             tells(x, "lay(5, 0, 0)", x.lay(5, 0, 0), MAX);
             tells(x, "lay(5, 39, 1)", x.lay(5, 39, 1), -1);
         });
-        sentence(here, "BAD; NOTHING", () -> {
+        sentence(here, "BAD", () -> {
             CaseCutter x = furnished();
             allBad(x, "lay", NO_ROWS, r -> x.lay(r, 0, 1));
+        });
+        sentence(here, "NOTHING", () -> {
+            CaseCutter x = furnished();
             finds(x, "lay(4, 0, 1)", NOTHING, () -> x.lay(4, 0, 1));
             finds(x, "lay(4, -1, 1), BEYOND too", NOTHING, () -> x.lay(4, -1, 1));
             x.tear(0);
@@ -107,9 +110,12 @@ public final class BoundsOfCalls extends Bench {
             tells(x, "at(0, 39)", x.at(0, 39), MAX);
             tells(x, "at(0, 38)", x.at(0, 38), 0);
         });
-        sentence(here, "BAD; NOTHING", () -> {
+        sentence(here, "BAD", () -> {
             CaseCutter x = furnished();
             allBad(x, "at", NO_ROWS, r -> x.at(r, 0));
+        });
+        sentence(here, "NOTHING", () -> {
+            CaseCutter x = furnished();
             finds(x, "at(4, 0)", NOTHING, () -> x.at(4, 0));
             finds(x, "at(4, -1), BEYOND too", NOTHING, () -> x.at(4, -1));
             x.tear(0);
@@ -134,9 +140,12 @@ public final class BoundsOfCalls extends Bench {
             due("row(0, 3)", x.row(0, 3), 3);
             dueRow(x, 0, 0, 0, 0);
         });
-        sentence(here, "BAD; NOTHING.", () -> {
+        sentence(here, "BAD", () -> {
             CaseCutter x = furnished();
             allBad(x, "tear", NO_ROWS, x::tear);
+        });
+        sentence(here, "NOTHING.", () -> {
+            CaseCutter x = furnished();
             finds(x, "tear(4)", NOTHING, () -> x.tear(4));
             x.tear(0);
             finds(x, "tear(0) again", NOTHING, () -> x.tear(0));
@@ -238,9 +247,12 @@ public final class BoundsOfCalls extends Bench {
             all[0] = MAX - 1;
             dueMean(MAX - 1, all);
         });
-        sentence(here, "BAD; NOTHING", () -> {
+        sentence(here, "BAD", () -> {
             CaseCutter x = furnished();
             allBad(x, "mean", NO_ROWS, x::mean);
+        });
+        sentence(here, "NOTHING", () -> {
+            CaseCutter x = furnished();
             finds(x, "mean(4)", NOTHING, () -> x.mean(4));
         });
         sentence(here, "NOUGHT.", () -> {
@@ -294,9 +306,12 @@ public final class BoundsOfCalls extends Bench {
             due("put(3, 119, 32)", x.put(3, 119, 32), 1000 - 97);
             due("put(3, 0, 32)", x.put(3, 0, 32), 1032);
         });
-        sentence(here, "BAD; NOTHING", () -> {
+        sentence(here, "BAD", () -> {
             CaseCutter x = furnished();
             allBad(x, "put", NO_TEXTS, t -> x.put(t, 0, 65));
+        });
+        sentence(here, "NOTHING", () -> {
+            CaseCutter x = furnished();
             finds(x, "put(3, 0, 65)", NOTHING, () -> x.put(3, 0, 65));
             finds(x, "put(3, -1, 65), BEYOND too", NOTHING, () -> x.put(3, -1, 65));
         });
@@ -325,9 +340,12 @@ public final class BoundsOfCalls extends Bench {
             x.put(2, 0, ';');
             refuses(x, "fault at the first byte", 0, () -> x.fault(2));
         });
-        sentence(here, "BAD; NOTHING.", () -> {
+        sentence(here, "BAD", () -> {
             CaseCutter x = furnished();
             allBad(x, "fault", NO_TEXTS, x::fault);
+        });
+        sentence(here, "NOTHING.", () -> {
+            CaseCutter x = furnished();
             finds(x, "fault(3)", NOTHING, () -> x.fault(3));
         });
     }
@@ -385,10 +403,26 @@ public final class BoundsOfCalls extends Bench {
             due("program of twelve", y.program(0), 12);
             refuses(y, "add, twelve are there", FULL, () -> y.add(5, 5, 0, 0));
         });
-        sentence(here, "BAD; NOTHING; STATE: a FAULT. (STATE behind NOTHING.)", () -> {
+        sentence(here, "BAD", () -> {
             CaseCutter x = furnished();
             allBad(x, "program", NO_TEXTS, x::program);
+        });
+        sentence(here, "NOTHING", () -> {
+            CaseCutter x = furnished();
             finds(x, "program(3)", NOTHING, () -> x.program(3));
+        });
+        sentence(here, "(STATE behind NOTHING.)", () -> {
+            // the same PROGRAM: a TEXT that is missing, then there with a FAULT, then without one
+            CaseCutter x = new CaseCutter();
+            finds(x, "program(0), missing", NOTHING, () -> x.program(0));
+            x.text(0, 1);
+            x.put(0, 0, '?');
+            refuses(x, "program(0), a FAULT", STATE, () -> x.program(0));
+            x.put(0, 0, ' ');
+            due("program(0)", x.program(0), 0);
+        });
+        sentence(here, "STATE: a FAULT.", () -> {
+            CaseCutter x = furnished();
             type(x, 2, "rest 1;case 7 7 7;?");
             refuses(x, "program(2), its last byte is none", STATE, () -> x.program(2));
             type(x, 2, "case 1 1 1;rest 1");
@@ -470,9 +504,12 @@ public final class BoundsOfCalls extends Bench {
             x = named(25, 25, 25, 25, 25, 25);
             tells(x, "hash of zzzzzz, gone round", x.hash(0), -685785664);
         });
-        sentence(here, "BAD; NOTHING", () -> {
+        sentence(here, "BAD", () -> {
             CaseCutter x = furnished();
             allBad(x, "hash", NO_ROWS, x::hash);
+        });
+        sentence(here, "NOTHING", () -> {
+            CaseCutter x = furnished();
             finds(x, "hash(4)", NOTHING, () -> x.hash(4));
         });
         sentence(here, "SIZE", () -> {
@@ -614,11 +651,14 @@ public final class BoundsOfCalls extends Bench {
             refuses(x, "aim(0, 0)", STATE, () -> x.aim(0, 0));
             refuses(x, "aim(1, 7)", STATE, () -> x.aim(1, 7));
         });
-        sentence(here, "FULL. (FULL last.)", () -> {
+        sentence(here, "FULL.", () -> {
             CaseCutter x = withDeeds(39);
             due("the 40th DEED", x.aim(0, 7), 1);
             refuses(x, "the 41st DEED", FULL, () -> x.aim(0, 6));
-            refuses(x, "40 DEEDS, it is that", STATE, () -> x.aim(0, 7));
+        });
+        sentence(here, "(FULL last.)", () -> {
+            CaseCutter x = withDeeds(40);
+            refuses(x, "40 DEEDS, it is that", STATE, () -> x.aim(0, 0));
             refuses(x, "40 DEEDS, AIM 8", BAD, () -> x.aim(0, 8));
             refuses(x, "40 DEEDS, no CASE", BAD, () -> x.aim(1, 0));
         });
@@ -644,11 +684,14 @@ public final class BoundsOfCalls extends Bench {
             refuses(x, "weigh(0, 0)", STATE, () -> x.weigh(0, 0));
             refuses(x, "weigh(1, 9)", STATE, () -> x.weigh(1, 9));
         });
-        sentence(here, "FULL. (FULL last.)", () -> {
+        sentence(here, "FULL.", () -> {
             CaseCutter x = withDeeds(39);
             due("the 40th DEED", x.weigh(0, 9), 0);
             refuses(x, "the 41st DEED", FULL, () -> x.weigh(0, 8));
-            refuses(x, "40 DEEDS, it is that", STATE, () -> x.weigh(0, 9));
+        });
+        sentence(here, "(FULL last.)", () -> {
+            CaseCutter x = withDeeds(40);
+            refuses(x, "40 DEEDS, it is that", STATE, () -> x.weigh(0, 0));
             refuses(x, "40 DEEDS, WEIGHT 10", BAD, () -> x.weigh(0, 10));
             refuses(x, "40 DEEDS, no CASE", BAD, () -> x.weigh(1, 0));
         });
@@ -751,7 +794,7 @@ public final class BoundsOfCalls extends Bench {
             due("reach(0)", x.reach(0), 0);
             due("count(0)", x.count(0), 1);
         });
-        sentence(here, "The PROGRAM is as it was kept: its DEEDS, too", () -> {
+        sentence(here + ", its DEEDS", "The PROGRAM is as it was kept", () -> {
             CaseCutter x = of("range 1 2 1 1;case 4 2 2;rest 5;");
             long[] digests = new long[5];
             for (int round = 0; round < 2; round++) {
@@ -782,9 +825,12 @@ public final class BoundsOfCalls extends Bench {
             }
             due("digest()", x.digest(), digests[0]);
         });
-        sentence(here, "BAD; NOTHING.", () -> {
+        sentence(here, "BAD", () -> {
             CaseCutter x = furnished();
             allBad(x, "on", NO_KEPT_PLACES, x::on);
+        });
+        sentence(here, "NOTHING.", () -> {
+            CaseCutter x = furnished();
             finds(x, "on(2)", NOTHING, () -> x.on(2));
             CaseCutter none = new CaseCutter();
             finds(none, "on(0)", NOTHING, () -> none.on(0));
@@ -854,7 +900,7 @@ public final class BoundsOfCalls extends Bench {
             x.cut(0);
             due("of none again", x.cost(), 0);
         });
-        sentence(here, "What THE PLAN costs, behind each call that makes another PROGRAM", () -> {
+        sentence(here + ", behind other calls", "What THE PLAN costs.", () -> {
             CaseCutter x = of("range 1 2 1 3;range 4 5 2 3;");
             due("at first", x.cost(), 18);
             x.keep(0);
@@ -862,10 +908,10 @@ public final class BoundsOfCalls extends Bench {
             due("behind aim", x.cost(), 12);
             x.weigh(1, 0);
             due("behind weigh", x.cost(), 6);
-            x.cut(1);
-            due("behind cut", x.cost(), 6);
-            x.add(4, 5, 1, 9);
-            due("behind add", x.cost(), 24);
+            x.cut(0);
+            due("behind cut", x.cost(), 0);
+            x.add(1, 2, 1, 9);
+            due("behind add", x.cost(), 18);
             x.undo(1);
             due("behind undo", x.cost(), 12);
             due("on(0)", x.on(0), 0);
@@ -1107,6 +1153,10 @@ public final class BoundsOfCalls extends Bench {
             x = of("case 0 1 9;case 1000 2 0;case 1001 2 0;case 1002 3 0;");
             due("the first in a PART of many", x.worst(), 1);
             due("asked()", x.asked(), 4);
+            // the last PART, of CASE 3, is number 2
+            x = of("range 0 1 1 9;range 30 31 1 9;case 500 3 1;range 999 1000 2 1;");
+            due("behind a PART of two", x.worst(), 3);
+            due("asked()", x.asked(), 4);
             x = of("case 5 1 1;");
             due("of one", x.worst(), 0);
             due("asked()", x.asked(), 1);
@@ -1169,7 +1219,7 @@ public final class BoundsOfCalls extends Bench {
         });
         sentence(here, "NONE: there is none.", () -> {
             CaseCutter x = of("case 0 1 9;");
-            x.reach(0);
+            x.told(0, 3);
             none(x, "swing(0) of one CASE", () -> x.swing(0));
             CaseCutter twelve = withCases(12);
             none(twelve, "swing(11) of twelve", () -> twelve.swing(11));
@@ -1248,12 +1298,12 @@ public final class BoundsOfCalls extends Bench {
             allBad(x, "lots of seed", new int[] {0, MAX, -1, MIN}, seed -> x.lots(1, seed));
         });
         sentence(here, "if it modulo 4 is 0, a CASE (it by 4, cut, modulo how many there are) is CUT", () -> {
-            for (int lot = 0; lot < 4; lot++) {
-                CaseCutter x = of("case 100 0 0;case 200 1 0;case 300 2 0;");
-                due("lots", x.lots(1, seedOf(12 + 4 * lot)), 2);
-                due("reach of the one that is CUT", x.reach(100 * (lot % 3 + 1)), NONE);
+            for (int lot : new int[] {1, 2, 3, 4, 536870911}) {
+                CaseCutter x = of("case 100 0 0;case 200 1 0;case 300 2 0;case 400 3 0;");
+                due("lots", x.lots(1, seedOf(4L * lot)), 3);
+                due("reach of the one that is CUT", x.reach(100 * (lot % 4 + 1)), NONE);
                 due("undo(0)", x.undo(0), 1);
-                due("reach of it again", x.reach(100 * (lot % 3 + 1)), lot % 3);
+                due("reach of it again", x.reach(100 * (lot % 4 + 1)), lot % 4);
             }
         });
         sentence(here, "if there are some (none: nothing)", () -> {
@@ -1262,6 +1312,14 @@ public final class BoundsOfCalls extends Bench {
             due("count(8), a DEED of nothing", x.count(8), 1);
             due("undo(0)", x.undo(0), 1);
             due("count(0)", x.count(0), 0);
+        });
+        sentence(here, "if it is not 0, one is ADDED", () -> {
+            for (int number : new int[] {1, 2, 3, 5, 2147483645, 2147483646}) {
+                CaseCutter x = of("rest 9;");
+                due("lots of " + number, x.lots(1, seedOf(number)), 1);
+                due("undo(0)", x.undo(0), 1);
+                due("count(0)", x.count(0), 0);
+            }
         });
         sentence(here, "LOW (it by 4, cut) modulo 48 less 24, HIGH (it by 256, cut) modulo 3 more than LOW,"
                 + " AIM (it by 16, cut) modulo 8, WEIGHT (it by 128, cut) modulo 10", () -> {
@@ -1298,6 +1356,11 @@ public final class BoundsOfCalls extends Bench {
             due("undo(0) of nothing", x.undo(0), 1);
             dueCase(x, 0, -30, -24, 1, 1);
         });
+        sentence(here, "BAD", () -> {
+            CaseCutter x = furnished();
+            allBad(x, "lots of n", new int[] {0, 21, -1, MIN, MAX}, n -> x.lots(n, 1));
+            allBad(x, "lots of seed", new int[] {0, MAX, -1, MIN}, seed -> x.lots(20, seed));
+        });
         sentence(here, "FULL: with n more there would be more than 40 DEEDS.", () -> {
             CaseCutter x = withDeeds(20);
             due("20 to 40 below 0", Math.min(x.lots(20, 7), 0), 0);
@@ -1315,6 +1378,7 @@ public final class BoundsOfCalls extends Bench {
         sentence(here, "What the latest lay(), at(), mean(), hash(), told(), reach(), run(), part(), mark(), jump(), worst(), swing()", () -> {
             CaseCutter x = of("case 0 3 9;range 1000 2000 4 1;case 5000 5 1;");
             x.row(0, 1);
+            x.worst();
             tells(x, "lay", x.lay(0, 0, 4), 0);
             tells(x, "at", x.at(0, 0), 4);
             x.lay(0, 0, 1);
@@ -1357,7 +1421,7 @@ public final class BoundsOfCalls extends Bench {
             due("asked()", y.asked(), 1);
             dueRun(y, 8, NONE, 0);
         });
-        sentence(here, "What the latest [..] told: other calls leave it", () -> {
+        sentence(here + ", other calls leave it", "What the latest", () -> {
             CaseCutter x = furnished();
             x.told(1, 0);
             x.row(3, 2);
@@ -1460,11 +1524,13 @@ public final class BoundsOfCalls extends Bench {
             due("finding()", x.finding(), NOUGHT);
             x.row(0, -1);
             due("finding()", x.finding(), SIZE);
+            x.at(1, 0);
+            due("finding() again", x.finding(), NOTHING);
             x.row(0, 1);
             x.at(0, 0);
             x.at(9, 0);
             x.add(0, 0, 0, 0);
-            due("finding(), still", x.finding(), SIZE);
+            due("finding(), still", x.finding(), NOTHING);
         });
         sentence(here, "(0 before any).", () -> {
             CaseCutter x = new CaseCutter();

@@ -51,6 +51,15 @@ public final class BoundsOfTerms extends Bench {
             dueRun(x, MIN + 1, NONE, 2);
             dueRun(x, MAX - 1, NONE, 2);
             dueRun(x, MAX, 2, 2);
+            // the sides are of different STEPS, so that going the wrong one is seen
+            x = of("case -2147483648 1 1;range 2147483646 2147483647 2 1;");
+            dueRun(x, MIN, 1, 2);
+            dueRun(x, -1, NONE, 2);
+            dueRun(x, 0, NONE, 2);
+            dueRun(x, MAX, 2, 3);
+            x = of("range -2147483648 -2147483647 1 1;case -2147483646 2 1;");
+            dueRun(x, MIN, 1, 3);
+            dueRun(x, MAX, NONE, 2);
             x = of("range -2147483648 2147483647 7 9;");
             dueRun(x, MIN, 7, 2);
             dueRun(x, -1, 7, 2);
@@ -75,6 +84,41 @@ public final class BoundsOfTerms extends Bench {
             refuses(full, "cut(1), FULL too", BAD, () -> full.cut(1));
             CaseCutter longOne = withCases(12);
             refuses(longOne, "write(4), SPENT too", BAD, () -> longOne.write(4));
+        });
+        sentence(TERMS, "FULL -2", () -> {
+            due("FULL", CaseCutter.FULL, -2);
+            CaseCutter x = withDeeds(40);
+            refuses(x, "lots(1, 1)", -2, () -> x.lots(1, 1));
+        });
+        sentence(TERMS, "STATE -4 (not now)", () -> {
+            due("STATE", CaseCutter.STATE, -4);
+            CaseCutter x = new CaseCutter();
+            refuses(x, "worst()", -4, x::worst);
+            x.add(0, 0, 0, 0);
+            due("worst(), now", x.worst(), 0);
+        });
+        sentence(TERMS, "SPENT -6 (more than told)", () -> {
+            due("SPENT", CaseCutter.SPENT, -6);
+            CaseCutter x = withCases(12);
+            refuses(x, "write(0)", -6, () -> x.write(0));
+        });
+        sentence(TERMS, "FINDING -3 (finding() tells which)", () -> {
+            due("FINDING", CaseCutter.FINDING, -3);
+            CaseCutter x = new CaseCutter();
+            due("tear(0)", x.tear(0), -3);
+            due("finding()", x.finding(), 1);
+            due("row(0, -1)", x.row(0, -1), -3);
+            due("finding()", x.finding(), 5);
+        });
+        sentence(TERMS, "NONE -9", () -> {
+            due("NONE", CaseCutter.NONE, -9);
+            due("BAD", CaseCutter.BAD, -1);
+            CaseCutter x = of("");
+            due("fault(0)", x.fault(0), -9);
+            due("reach(0)", x.reach(0), -9);
+            due("run(0)", x.run(0), -9);
+            x.add(0, 0, 0, 0);
+            due("swing(0)", x.swing(0), -9);
         });
         sentence("Terms, of rows", "What is refused changes nothing but finding(), findings()", () -> {
             refused("row(-1, 1)", BAD, x -> x.row(-1, 1));
@@ -392,6 +436,8 @@ public final class BoundsOfTerms extends Bench {
             CaseCutter x = of("case -2147483648 7 9;case 2147483647 0 0;");
             dueCase(x, 0, MIN, MIN, 7, 9);
             dueCase(x, 1, MAX, MAX, 0, 0);
+            dueCase(of("case 5 7 0;"), 0, 5, 5, 7, 0);
+            dueCase(of("case 5 0 9;"), 0, 5, 5, 0, 9);
         });
         sentence(TERMS, "range A B T W", () -> {
             dueCase(of("range -2147483648 2147483647 7 9;"), 0, MIN, MAX, 7, 9);
@@ -616,6 +662,26 @@ public final class BoundsOfTerms extends Bench {
             due("SPAN of many CASES", spanOf("case -1 1 0;case 0 2 0;case 1 3 0;"), 3);
             due("SPAN of half of all", spanOf("range 1 2147483647 1 1;"), MAX);
         });
+        sentence(TERMS, "A PART is one CASE or some, one behind the other by numbers", () -> {
+            // all CASES are in PARTS, each in one: the first, one, all twelve
+            duePart(of("case 5 1 1;"), 0, POINT, 0, 0);
+            CaseCutter x = new CaseCutter();
+            for (int i = 0; i < 12; i++) {
+                x.add(5 * i, 5 * i + 1, i % 8, 9);
+            }
+            duePart(x, 0, ROWED, 0, 11, 0, 3, 57);
+            CaseCutter y = of("case 0 1 0;case 1 2 0;case 2 3 0;range 3 999 4 9;range 1000 1001 5 0;range 1002 1003 6 0;");
+            duePart(y, 0, ROWED, 0, 2);
+            duePart(y, 1, LONE, 3, 3);
+            duePart(y, 2, ROWED, 4, 5);
+            due("count(1)", y.count(1), 3);
+        });
+        sentence(TERMS, "SORTS: 0 PART", () -> {
+            for (String words : new String[] {"case 0 1 1;", "range 0 9 1 1;", "case 0 1 0;case 31 2 0;"}) {
+                CaseCutter x = of(words);
+                refuses(x, "mark(0, 0) of " + words, BAD, () -> x.mark(0, 0));
+            }
+        });
         sentence(TERMS, "1 LONE (one CASE alone; a PART)", () -> {
             duePart(of("range 0 100 1 1;"), 0, LONE, 0, 0, 0, 2, 101);
             // side by side and of one AIM, but two CASES
@@ -730,6 +796,20 @@ public final class BoundsOfTerms extends Bench {
             }
             due("the dearest", x.cost(), 9 * (8 * (4 + 2) + 4 * (3 + 2)));
         });
+        sentence(TERMS, "It is the one that costs least", () -> {
+            // 20 and 9 and 24 (11 and 4 and 9), not 60 by the middle
+            CaseCutter x = of("case 0 1 9;case 1000 2 1;case 2000 3 1;case 3000 4 9;");
+            due("cost()", x.cost(), 53);
+            int[] depths = {1, 3, 3, 2};
+            for (int k = 0; k < 4; k++) {
+                duePart(x, k, POINT, k, k, depths[k]);
+            }
+            // a row of all (3 times 20) against a POINT ahead of a row (20 and 9 and 3 times 11)
+            x = of("range 0 1 1 9;range 2 3 2 1;range 4 5 3 1;range 6 7 4 9;");
+            due("cost() of a row", x.cost(), 60);
+            x = of("case 0 1 9;range 2 3 2 1;range 4 5 3 1;range 6 7 4 1;");
+            due("cost() of a POINT and a row", x.cost(), 12 + 9 + 9);
+        });
         sentence(TERMS, "of like ones one PART ahead of a COMPARISON", () -> {
             // 2 times 8 against 8 and 4 and 4
             due("of WEIGHTS 4, 4", of("case 0 3 4;case 1 3 4;").count(1), 1);
@@ -756,6 +836,14 @@ public final class BoundsOfTerms extends Bench {
             x.cut(0);
             due("count(1) of none again", x.count(1), 0);
             refuses(x, "part(0, 0)", BAD, () -> x.part(0, 0));
+        });
+        sentence(TERMS, "PARTS are 0, 1, .. as they come", () -> {
+            CaseCutter x = of("case 2000 3 9;case 0 1 1;case 1000 2 5;");
+            for (int k = 0; k < 3; k++) {
+                tells(x, "mark(" + k + ", 1)", x.mark(k, 1), 1000 * k);
+            }
+            refuses(x, "part(3, 0)", BAD, () -> x.part(3, 0));
+            refuses(x, "part(-1, 0)", BAD, () -> x.part(-1, 0));
         });
         sentence(TERMS, "DEPTH of one: how many COMPARISONS are above it", () -> {
             duePart(of("case 0 1 9;"), 0, POINT, 0, 0, 0);
