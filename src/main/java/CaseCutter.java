@@ -16,6 +16,7 @@ public final class CaseCutter {
     private static final int CASES = 12, AIMS = 8, WEIGHTS = 10;
     private static final int DEEDS = 40, KEPT = 3, MOST_LOTS = 20;
     private static final int LETTERS = 26, NAME_LETTERS = 6;
+    private static final int LEAST_INT = -2147483648, GREATEST_INT = 2147483647;
 
     private static final int LONE = 1, ROWED = 2, MASKED = 3, POINT = 4;
     private static final int ROWED_SPAN = 64, ROWED_THINNEST = 4;
@@ -825,22 +826,22 @@ public final class CaseCutter {
 
         int addCase(int low, int high, int aim, int weight) {
             int i = insert(low, high, aim, weight);
-            record(ADDED, i);
+            noteDeed(ADDED, i);
             return i;
         }
 
         void cutCase(int i) {
-            record(WAS_CUT, i);
+            noteDeed(WAS_CUT, i);
             remove(i);
         }
 
         void aimCase(int i, int aim) {
-            record(AIMED, i);
+            noteDeed(AIMED, i);
             aims[i] = aim;
         }
 
         void weighCase(int i, int weight) {
-            record(WEIGHED, i);
+            noteDeed(WEIGHED, i);
             weights[i] = weight;
         }
 
@@ -909,7 +910,7 @@ public final class CaseCutter {
             }
         }
 
-        private void record(int kind, int i) {
+        private void noteDeed(int kind, int i) {
             if (deeds >= DEEDS || !has(i)) {
                 return;
             }
@@ -977,7 +978,7 @@ public final class CaseCutter {
         }
 
         private void choose(int i, int j, int weight) {
-            int least = sorts[i][j] == 0 ? Integer.MAX_VALUE : steps[i][j] * weight;
+            int least = sorts[i][j] == 0 ? GREATEST_INT : steps[i][j] * weight;
             int where = WHOLE;
             for (int m = i; m < j; m++) {
                 int there = weight + prices[i][m] + prices[m + 1][j];
@@ -1046,7 +1047,7 @@ public final class CaseCutter {
                     return stepsOf(k);
                 default:
                     long span = program.span(first[k], last[k]);
-                    return span > Integer.MAX_VALUE ? -1 : (int) span;
+                    return span > GREATEST_INT ? -1 : (int) span;
             }
         }
 
@@ -1138,7 +1139,7 @@ public final class CaseCutter {
         }
 
         private boolean readNumbers(Program program, boolean spanned) {
-            if (!readNumber(Integer.MIN_VALUE, Integer.MAX_VALUE)) {
+            if (!readNumber(LEAST_INT, GREATEST_INT)) {
                 return false;
             }
             low = (int) number;
@@ -1150,7 +1151,7 @@ public final class CaseCutter {
             if (!spanned) {
                 return true;
             }
-            if (!readNumber(low, Integer.MAX_VALUE)) {
+            if (!readNumber(low, GREATEST_INT)) {
                 return false;
             }
             high = (int) number;
@@ -1244,7 +1245,9 @@ public final class CaseCutter {
             number = 0;
             while (place < size && bytes[place] >= '0' && bytes[place] <= '9') {
                 // many figures must not go round to a number that may be
-                number = Math.min(10 * number + (bytes[place] - '0'), TOO_MUCH);
+                if (number < TOO_MUCH) {
+                    number = 10 * number + (bytes[place] - '0');
+                }
                 place++;
             }
             kind = place > figuresFrom ? NUMBER : WRONG;

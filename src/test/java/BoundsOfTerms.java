@@ -533,6 +533,12 @@ public final class BoundsOfTerms extends Bench {
             dueFault("case 18446744073709551617 0 0;", 5);
             dueFault("case 1" + "0".repeat(100) + " 0 0;", 5);
             dueFault("case -1" + "0".repeat(100) + " 0 0;", 5);
+            // the edges with figures more behind them: what is more must not be dropped
+            dueFault("case 21474836470 0 0;", 5);
+            dueFault("case -21474836480 0 0;", 5);
+            dueFault("range 0 21474836470 0 0;", 8);
+            dueFault("case 0 0" + "0".repeat(20) + "70 0;", 7);
+            dueFault("case 0 0 0" + "0".repeat(20) + "90;", 9);
             dueFault("case 0 4294967296 0;", 7);
             dueFault("case 0 0 18446744073709551616;", 9);
             dueFault("case 0 8 0;", 7);

@@ -264,6 +264,7 @@ public final class Promises {
         dueFault("case", 4);
         dueFault("case 2147483648 2 3;", 5);
         dueFault("case -2147483649 2 3;", 5);
+        dueFault("case -21474836480 2 3;", 5);
         dueFault("case 18446744073709551617 2 3;", 5);
         dueFault("case 00000000000000000000000000001 2 3;", NONE);
         dueFault("case - 2 3;", 5);

@@ -7,7 +7,9 @@ import java.nio.file.Files;
 import java.nio.file.Path;
 import java.util.ArrayList;
 import java.util.List;
+import java.util.Map;
 import java.util.Set;
+import java.util.TreeMap;
 import java.util.TreeSet;
 import java.util.regex.Matcher;
 import java.util.regex.Pattern;
@@ -23,7 +25,11 @@ public final class Rules {
             + "int lots(int,int); int asked(); long mask0(); int count(int); int finding(); int findings(int); "
             + "long digest()";
     private static final Set<String> CONSTANTS = Set.of("BAD", "FULL", "FINDING", "STATE", "SPENT", "NONE");
-    private static final int MOST_LINES = 60, MOST_PARAMETERS = 7, MOST_CLASSES = 12, MOST_FIELDS = 20;
+    private static final int MOST_LINES = 60, MOST_PARAMETERS = 7, MOST_CLASSES = 12, MOST_FIELDS = 20,
+            MOST_DEPTH = 8;
+    /** Of rule 4's library, what the class uses. */
+    private static final Set<String> LIBRARY = Set.of("length", "charAt", "bitCount", "max", "min", "abs", "arraycopy");
+    private static final Pattern METHOD = Pattern.compile("(?m)^( {4}| {8})(?!for|if|while|switch)[a-zA-Z][^(;=\n]*?\\b([a-zA-Z0-9]+)\\([^\n]*\\) \\{$");
 
     private static int wrong = 0;
 
@@ -153,12 +159,87 @@ public final class Rules {
         }
     }
 
+    /** Names of methods to the bodies of all methods that bear the name: those of one name are taken as one. */
+    private static Map<String, String> bodies(String source) {
+        Map<String, String> bodies = new TreeMap<>();
+        Matcher m = METHOD.matcher(source);
+        while (m.find()) {
+            String end = "\n" + m.group(1) + "}\n";
+            String body = source.substring(m.end(), source.indexOf(end, m.end()));
+            bodies.merge(m.group(2), body, String::concat);
+        }
+        return bodies;
+    }
+
+    private static Set<String> calledIn(String body) {
+        Set<String> called = new TreeSet<>();
+        Matcher m = Pattern.compile("(?<!\\bnew )\\b([a-zA-Z0-9]+)\\(").matcher(body);
+        while (m.find()) {
+            called.add(m.group(1));
+        }
+        return called;
+    }
+
+    /** Else a method written in another form would not be looked at. */
+    private static void allAreSeen(Class<?> outer, Map<String, String> bodies) {
+        List<Class<?>> all = new ArrayList<>(List.of(outer.getDeclaredClasses()));
+        all.add(outer);
+        for (Class<?> c : all) {
+            for (Method m : c.getDeclaredMethods()) {
+                if (!bodies.containsKey(m.getName())) {
+                    broken(11, m + " is not seen in the source");
+                }
+            }
+        }
+    }
+
+    private static void library(String source, Map<String, String> bodies) {
+        for (Map.Entry<String, String> e : bodies.entrySet()) {
+            for (String called : calledIn(e.getValue())) {
+                if (!bodies.containsKey(called) && !LIBRARY.contains(called)) {
+                    broken(4, e.getKey() + " calls " + called);
+                }
+            }
+        }
+        forbid(source, 4, "\\b(Integer|Long|Character|Byte|Short)\\.[A-Z]\\w*");
+    }
+
+    /** How many calls stand open at once, this one too; a method that calls itself counts once. */
+    private static int depthOf(String name, Map<String, String> bodies, List<String> open) {
+        int deepest = 0;
+        if (bodies.containsKey(name)) {
+            open.add(name);
+            for (String called : calledIn(bodies.get(name))) {
+                if (!called.equals(name) && open.contains(called)) {
+                    broken(8, open + " calls " + called + " again");
+                } else if (!called.equals(name)) {
+                    deepest = Math.max(deepest, depthOf(called, bodies, open));
+                }
+            }
+            open.remove(open.size() - 1);
+        }
+        return deepest + 1;
+    }
+
+    private static void depths(Map<String, String> bodies) {
+        for (String name : bodies.keySet()) {
+            int depth = depthOf(name, bodies, new ArrayList<>());
+            if (depth > MOST_DEPTH) {
+                broken(11, name + " goes " + depth + " calls deep");
+            }
+        }
+    }
+
     public static void main(String[] args) throws IOException {
         face(CaseCutter.class);
         inside(CaseCutter.class);
         String source = bare(Files.readString(Path.of("src/main/java/CaseCutter.java")));
         words(source);
         methodLengths(source);
+        Map<String, String> bodies = bodies(source);
+        allAreSeen(CaseCutter.class, bodies);
+        library(source, bodies);
+        depths(bodies);
         System.out.println(wrong == 0 ? "the rules are kept" : wrong + " rules are broken");
         if (wrong != 0) {
             System.exit(1);
