@@ -461,7 +461,11 @@ public final class BoundsOfTerms extends Bench {
             dueFault("name az 1 2;", NONE);
             // ` is the byte ahead of a, { the one behind z
             dueFault("name `z 1 2;", 5);
+            dueFault("name a` 1 2;", 6);
+            dueFault("name {z 1 2;", 5);
             dueFault("name a{ 1 2;", 6);
+            dueFault("case` 1 2 3;", 4);
+            dueFault("case{ 1 2 3;", 4);
             dueFault("name a b 1;", 7);
         });
         sentence(TERMS, "NUMBERS (perhaps - (45) ahead, figures side by side, 0 ahead of others, too)", () -> {
@@ -473,7 +477,11 @@ public final class BoundsOfTerms extends Bench {
             dueFault("case +1 2 3;", 5);
             // / is the byte ahead of 0, : the one behind 9
             dueFault("case 1/ 2 3;", 6);
+            dueFault("case /1 2 3;", 5);
             dueFault("case 1: 2 3;", 6);
+            dueFault("case :1 2 3;", 5);
+            dueFault("case -/ 2 3;", 5);
+            dueFault("case -: 2 3;", 5);
             dueFault("case 1 2 3 4;", 11);
             dueFault("case 1-5 2 3;", 6);
         });
@@ -873,6 +881,19 @@ public final class BoundsOfTerms extends Bench {
             dueRun(x, 0, 1, 3);
             dueRun(x, 1, 2, 2);
             dueRun(x, 2, NONE, 2);
+            // a PART of several CASES behind: LOW of its first one; ahead: up to LOW of the CASE behind
+            x = of("case 0 1 9;range 1000 1001 2 5;case 1010 2 5;");
+            duePart(x, 1, MASKED, 1, 2, 1, 2, 11);
+            dueRun(x, 999, NONE, 2);
+            dueRun(x, 1000, 2, 3);
+            dueRun(x, 1005, NONE, 3);
+            dueRun(x, 1009, NONE, 3);
+            x = of("case 0 1 5;case 10 1 5;case 1000 2 9;");
+            duePart(x, 0, MASKED, 0, 1, 1, 2, 11);
+            dueRun(x, 0, 1, 3);
+            dueRun(x, 10, 1, 3);
+            dueRun(x, 999, NONE, 3);
+            dueRun(x, 1000, 2, 2);
         });
         sentence(TERMS, "STEPS are those COMPARISONS and the PART's", () -> {
             CaseCutter x = withCases(12);
